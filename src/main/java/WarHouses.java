@@ -1468,22 +1468,26 @@ public final class WarHouses {
 
         /** What counts of a head, 0 at least; NONE without. */
         int counted(int head) {
-            for (int place = lastOf[head]; place >= 0; place = ahead[place]) {
+            int place = lastOf[head];
+            for (int i = 0; i < ahead.length && place >= 0; i++) {
                 long value = evaluate(place);
                 if (value != BROKEN) {
                     return value < 0 ? 0 : (int) value;
                 }
+                place = ahead[place];
             }
             return NONE;
         }
 
         long total(int head) {
             long total = 0;
-            for (int place = lastOf[head]; place >= 0; place = ahead[place]) {
+            int place = lastOf[head];
+            for (int i = 0; i < ahead.length && place >= 0; i++) {
                 long value = evaluate(place);
                 if (value != BROKEN) {
                     total += value;
                 }
+                place = ahead[place];
             }
             return total;
         }
@@ -1524,7 +1528,7 @@ public final class WarHouses {
                     return BROKEN;
                 } else if (sort != CODE_IF && (stack[top - 1] != 0) == (sort == CODE_OR)) {
                     // It can't matter what stands behind; on from there, and never back.
-                    i = Math.max(i, rest - 1);
+                    i = rest > i ? rest - 1 : i;
                 } else {
                     top--;
                 }
