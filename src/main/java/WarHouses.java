@@ -2343,7 +2343,7 @@ public final class WarHouses {
         }
 
         void goIn(int entry, int plot, int week, int lives, int chain) {
-            int stay = emptyStay(plot);
+            int stay = emptyStay();
             told.stays.put(stay, STAY_PLOT, plot);
             told.stays.put(stay, STAY_ENTRY, entry);
             told.stays.put(stay, STAY_FROM, week);
@@ -2355,10 +2355,9 @@ public final class WarHouses {
         }
 
         /** One that was left in the WEEK in which it began tells nothing any more. */
-        private int emptyStay(int plot) {
+        private int emptyStay() {
             for (int s = 0; s < told.stays.rows(); s++) {
-                if (told.stays.at(s, STAY_PLOT) == plot
-                        && told.stays.at(s, STAY_FROM) == told.stays.at(s, STAY_LEFT)) {
+                if (told.stays.at(s, STAY_FROM) == told.stays.at(s, STAY_LEFT)) {
                     return s;
                 }
             }

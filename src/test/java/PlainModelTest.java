@@ -1571,7 +1571,9 @@ public final class PlainModelTest {
                 same("knock", x.knock(k, late), y.knock(k, late));
                 break;
             case 7:
-                same("family", x.family(e, k), y.family(e, k));
+                for (int each = -1; each <= y.s.entries.size(); each++) {
+                    same("family " + each, x.family(each, k), y.family(each, k));
+                }
                 same("points", x.points(e, w, k), y.points(e, w, k));
                 break;
             case 8:
@@ -1731,6 +1733,13 @@ public final class PlainModelTest {
             int ill = upTo(1);
             int k = small() / 2;
             same("entry", x.entry(c, w, persons, children, have, ill, k), y.entry(c, w, persons, children, have, ill, k));
+        }
+        int kin = upTo(2);
+        for (int e = 0; kin > 0 && e < entries; e++) {
+            int mark = upTo(kin * 3);
+            for (int which = upTo(1); which < 2 + upTo(1); which++) {
+                same("mark", x.mark(e, which, mark), y.mark(e, which, mark));
+            }
         }
     }
 

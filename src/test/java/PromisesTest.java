@@ -139,6 +139,7 @@ public final class PromisesTest {
         faultIs("point 1", 0);
         faultIs("pointss 1", 0);
         faultIs("Points 1", 0);
+        faultIs("pointsz 1", 0);
         faultIs("points1", NONE);
         faultIs("points 1a", 8);
         faultIs("points 00010000", NONE);
@@ -150,6 +151,13 @@ public final class PromisesTest {
         faultIs("strike 23 clauses 15", 10);
         faultIs("strike 1 clause 1 if 1 = 1", 18);
         faultIs("strike rooms clause 1", 7);
+        faultIs("strike", 6);
+        faultIs("strike 1", 8);
+        faultIs("strike 1 clause", 15);
+        faultIs("need steel", 10);
+        faultIs("need steel fit", 14);
+        faultIs("need steel fit steel", 20);
+        faultIs("work hut", 8);
         faultIs("need steel fit steel 1", NONE);
         faultIs("need bricks fit steel 1", 5);
         faultIs("need brick fits steel 1", 11);
@@ -178,6 +186,14 @@ public final class PromisesTest {
         faultIs("rent 1 if week", 14);
         faultIs("rent 1 if 1 = 1 or", 18);
         faultIs("rent 1 if 1 = 1 and and", 20);
+        faultIs("rent 1 if 1 = 1 and", 19);
+        faultIs("rent 1 if 1 =", 13);
+        faultIs("rent 1 *", 8);
+        faultIs("rent 1 +", 8);
+        faultIs("rent [[[[[[[[]]]]]]]]", 13);
+        faultIs("rent " + times("most[1,", 8) + "1" + times("]", 8), NONE);
+        faultIs("rent " + times("most[1,", 8) + "[1]" + times("]", 8), 61);
+        faultIs("rent " + times("most[", 8) + "[1]" + times(",1]", 8), 45);
         faultIs(times("huts 1;", 15) + "huts 1", NONE);
         faultIs(times("huts 1;", 16), 112);
         faultIs(times("huts 1;", 16) + " huts 1", 113);
@@ -260,6 +276,9 @@ public final class PromisesTest {
         valueIs("most[3, week] - least[2, week]", 5, 3);
         valueIs("4 if week > 3 and week < 6", 3, NONE);
         valueIs("4 if week > 3 and week < 6", 5, 4);
+        valueIs("4 if week < 3", 3, NONE);
+        valueIs("4 if week > 3", 3, NONE);
+        valueIs("least[7, week] + most[week, 5]", 6, 12);
         valueIs("4 if week = 1 or week = 2 and week = 3", 1, 4);
         valueIs("4 if (week = 1 or week = 2) and week = 3", 1, NONE);
         valueIs("4 if not week = 1", 1, NONE);
@@ -350,6 +369,7 @@ public final class PromisesTest {
         due("the greatest stock", x.stock(3, 259, 0, 0), 2_080_000_000);
         promise = 11;
         told(x, "gangs", x.gangs(-1, 0, 0, 0), -1);
+        told(x, "gangs", x.gangs(6, 0, 0, 0), -1);
         told(x, "gangs", x.gangs(0, 51, 0, 0), -1);
         told(x, "gangs", x.gangs(0, -1, 0, 0), -1);
         told(x, "gangs", x.gangs(0, 0, 260, 0), -1);
@@ -535,6 +555,22 @@ public final class PromisesTest {
         law(z, "licence brick 2", 0, 3);
         due("as known", z.built(2, 2, 0, 6), 0);
         due("as known", z.built(2, 3, 0, 6), 1);
+        due("as known, asked again", z.built(2, 2, 0, 6), 0);
+        WarHouses w = new WarHouses();
+        law(w, "licence steel week / 13;need steel base kits 1;need hut base kits 1", 0, 0);
+        law(w, "first hut", 6, 0);
+        for (int i = 0; i < 3; i++) {
+            w.plot(0, 1, 1, 0);
+            w.start(i, 6 + i * 7, 0);
+        }
+        due("none in the first quarter", w.built(0, 0, 0, 6), 0);
+        due("one in the next", w.built(1, 0, 0, 6), 1);
+        due("one in the next", w.built(2, 0, 0, 6), 0);
+        w.plot(0, 2, 1, 0);
+        w.start(3, 14, 0);
+        w.deliver(4, 14, 1, 0);
+        due("first from a later week on", w.built(3, 0, 0, 2), 14);
+        due("so the other waits", w.lacks(1, 14, 0), 4);
     }
 
     private static void knocks() {
@@ -636,6 +672,18 @@ public final class PromisesTest {
         due("bits beyond", y.judge(0, -1), NONE);
         due("quarter", y.judge(20, 0), NONE);
         due("quarter", y.judge(-1, 0), NONE);
+        promise = 22;
+        WarHouses w = new WarHouses();
+        law(w, "work hut base 20 - 2 * week", 0, 0);
+        w.gangs(0, 1, 0, 0);
+        w.plot(0, 2, 4, 0);
+        w.wish(0);
+        due("in time only if it is begun last", w.bound(0), 4);
+        promise = 23;
+        due("begun first", w.judge(0, 1), 1);
+        due("begun last", w.judge(0, 3), 40);
+        due("in the next quarter at once", w.judge(1, 3), 40);
+        due("and again in the first", w.judge(0, 2), 1);
         WarHouses z = new WarHouses();
         z.plot(0, 0, 2, 20);
         z.plot(0, 0, 3, 0);
@@ -725,6 +773,9 @@ public final class PromisesTest {
         x.mark(9, 2, 7);
         due("joined by the last", x.family(5, 0), 4);
         due("joined by the last", x.family(9, 0), 4);
+        due("others are not", x.family(6, 0), 6);
+        due("others are not", x.family(0, 0), 0);
+        due("others are not", x.family(3, 0), 3);
     }
 
     private static void ordering() {
@@ -764,6 +815,7 @@ public final class PromisesTest {
         due("none", y.order(0, 9, 4, 4), NONE);
         due("none", y.order(0, 9, 4, -2), NONE);
         due("council", y.order(-1, 9, 4, -1), NONE);
+        due("council", y.order(6, 9, 4, -1), NONE);
         due("week", y.order(0, 260, 4, -1), NONE);
         due("week", y.order(0, 0, 260, -1), NONE);
         promise = 29;
@@ -1009,6 +1061,16 @@ public final class PromisesTest {
             told(z, "out", z.out(0, i), 0);
         }
         told(z, "squat", z.squat(0, 0, 40), -5);
+        promise = 33;
+        WarHouses u = new WarHouses();
+        law(u, "squat week", 0, 0);
+        u.plot(0, 0, 1, 0);
+        u.start(0, 0, 0);
+        u.entry(0, 0, 2, 0, 0, 0, 0);
+        u.rent(0, 40, 40);
+        told(u, "squat", u.squat(0, 0, 5), 1);
+        due("squat, with week that week", u.lives(0, 9, 0), NONE);
+        due("squat, with week that week", u.lives(0, 10, 0), 0);
         promise = 34;
         WarHouses v = new WarHouses();
         law(v, "squat 9;huts 3", 0, 0);
@@ -1193,6 +1255,32 @@ public final class PromisesTest {
         due("kept anew", x.image(2), 0);
         due("kept anew", x.back(2), 0);
         due("kept anew", x.mark(1, 1, 3), -4);
+        WarHouses y = new WarHouses();
+        y.image(0);
+        law(y, "huts 5;squat 1", 0, 0);
+        y.plot(0, 0, 1, 0);
+        y.start(0, 0, 0);
+        y.entry(0, 0, 2, 0, 0, 0, 0);
+        y.target(2, 2, 0);
+        y.gangs(0, 1, 0, 0);
+        y.squat(0, 0, 0);
+        y.image(1);
+        y.back(0);
+        due("no target", y.truth(2, 2, 3), 0);
+        due("squatters", y.count(8), 0);
+        law(y, "rent 1;squat 4", 0, 0);
+        due("of the act told now", y.counts(4, 0, 0), 4);
+        due("of the act told now", y.counts(3, 0, 0), NONE);
+        for (int i = 0; i < 100; i++) {
+            y.offer(0);
+        }
+        due("offers", y.offer(0), -5);
+        y.back(1);
+        due("of the act told then", y.counts(4, 0, 0), 1);
+        due("of the act told then", y.counts(3, 0, 0), 5);
+        due("target", y.truth(2, 2, 3), 1);
+        due("squatters", y.count(8), 1);
+        due("offers", y.offer(0), 0);
     }
 
     private static void countsAndStatus() {
