@@ -1848,12 +1848,14 @@ public final class WarHouses {
         }
 
         private void serve(Site site, int plot, int week) {
-            int council = told.plots.at(plot, PLOT_COUNCIL);
             if (told.plots.at(plot, PLOT_CLEARED) > week) {
                 return;
             }
+            int council = told.plots.at(plot, PLOT_COUNCIL);
+            int kind = told.plots.at(plot, PLOT_KIND);
+            int rooms = told.plots.at(plot, PLOT_ROOMS);
             for (int stage = site.stage[plot]; stage < STAGES; stage++) {
-                if (site.lacking[plot] == NONE && !takeNeeds(site, plot, week)) {
+                if (site.lacking[plot] == NONE && !takeNeeds(site, plot, week, needsAt(kind, stage, rooms, week))) {
                     return;
                 }
                 if (site.lacking[plot] > 0) {
@@ -1870,12 +1872,11 @@ public final class WarHouses {
             }
         }
 
-        private boolean takeNeeds(Site site, int plot, int week) {
+        private boolean takeNeeds(Site site, int plot, int week, int from) {
             int stage = plot * STAGES + site.stage[plot];
             if (site.began[stage] == NONE) {
                 site.began[stage] = week;
             }
-            int from = needsAt(told.plots.at(plot, PLOT_KIND), site.stage[plot], told.plots.at(plot, PLOT_ROOMS), week);
             for (int m = 0; m < MATERIALS; m++) {
                 if (site.stocks[m] < needs[from + m]) {
                     return false;
