@@ -502,6 +502,10 @@ public final class PromisesTest {
         y.plot(0, 2, 1, 0);
         y.start(0, 3, 0);
         due("a stage of no work was over, the next one waits for needs", y.lacks(0, 3, 0), 4);
+        y.plot(0, 2, 1, 6);
+        y.start(1, 2, 0);
+        due("not cleared", y.lacks(1, 5, 0), 3);
+        due("cleared in this week", y.lacks(1, 6, 0), 4);
     }
 
     private static void firstAndOrder() {
@@ -558,7 +562,7 @@ public final class PromisesTest {
         due("as known, asked again", z.built(2, 2, 0, 6), 0);
         WarHouses w = new WarHouses();
         law(w, "licence steel week / 13;need steel base kits 1;need hut base kits 1", 0, 0);
-        law(w, "first hut", 6, 0);
+        law(w, "first hut", 14, 0);
         for (int i = 0; i < 3; i++) {
             w.plot(0, 1, 1, 0);
             w.start(i, 6 + i * 7, 0);
@@ -682,7 +686,7 @@ public final class PromisesTest {
         promise = 23;
         due("begun first", w.judge(0, 1), 1);
         due("begun last", w.judge(0, 3), 40);
-        due("in the next quarter at once", w.judge(1, 3), 40);
+        due("in the next quarter at once", w.judge(1, 1), 40);
         due("and again in the first", w.judge(0, 2), 1);
         WarHouses z = new WarHouses();
         z.plot(0, 0, 2, 20);
