@@ -183,16 +183,15 @@ public final class WarHouses {
     }
 
     public int act(int from, int known) {
-        if (!isWeek(from) || !isWeek(known)) {
-            return answer(CANNOT_BE);
+        int refusedBy = !isWeek(from) || !isWeek(known) ? CANNOT_BE : now.actCount >= MOST_ACTS ? NO_ROOM : 0;
+        if (refusedBy == 0) {
+            faultAt = reader.read();
+            refusedBy = faultAt == NONE ? 0 : BAD_TEXT;
         }
-        if (now.actCount >= MOST_ACTS) {
-            return answer(NO_ROOM);
-        }
-        faultAt = reader.read();
+        // The document keeps the TAPE for no refusal, so it is empty behind a TEXT that was not read, too.
         reader.length = 0;
-        if (faultAt != NONE) {
-            return answer(BAD_TEXT);
+        if (refusedBy != 0) {
+            return answer(refusedBy);
         }
         int number = now.actCount;
         now.acts[number] = new Act(from, known, reader);

@@ -465,14 +465,14 @@ public final class PlainModelTest {
         }
 
         int act(int from, int known) {
+            String text = tape.toString();
+            tape.setLength(0);
             if (!weeks(from, known)) {
                 return say(-1);
             }
             if (s.acts.size() == 24) {
                 return say(-5);
             }
-            String text = tape.toString();
-            tape.setLength(0);
             Act a = new Act();
             a.from = from;
             a.known = known;
@@ -1437,6 +1437,7 @@ public final class PlainModelTest {
         int known = known();
         same("act(" + from + "," + known + ") of '" + text + "'", x.act(from, known), y.act(from, known));
         same("fault of '" + text + "'", x.fault(), y.fault);
+        same("bytes behind act", x.count(9), y.tape.length());
     }
 
     private static void tell() {

@@ -111,13 +111,20 @@ public final class PromisesTest {
     private static void acts() {
         promise = 4;
         WarHouses x = new WarHouses();
-        write(x, "huts 1");
-        told(x, "act", x.act(-1, 0), -1);
-        told(x, "act", x.act(260, 0), -1);
-        told(x, "act", x.act(0, -1), -1);
-        told(x, "act", x.act(0, 260), -1);
-        due("tape of an act that was not read", x.count(9), 6);
+        int[][] wrongWeeks = {{-1, 0}, {260, 0}, {0, -1}, {0, 260}};
+        for (int[] weeks : wrongWeeks) {
+            write(x, "huts 1");
+            told(x, "act", x.act(weeks[0], weeks[1]), -1);
+            due("tape behind an act that was not read", x.count(9), 0);
+            due("feed behind it", x.feed(0, 0, 0, 0, 0), 20);
+            x.end(0);
+        }
         due("fault of an act that was not read", x.fault(), NONE);
+        due("acts", x.count(0), 0);
+        write(x, "huts");
+        told(x, "act", x.act(0, 0), -6);
+        due("tape behind a text that can't be", x.count(9), 0);
+        write(x, "huts 1");
         told(x, "act", x.act(259, 259), 0);
         due("tape", x.count(9), 0);
         for (int i = 1; i < 24; i++) {
@@ -125,8 +132,11 @@ public final class PromisesTest {
         }
         write(x, "huts");
         told(x, "act", x.act(0, 0), -5);
+        due("tape behind an act without room", x.count(9), 0);
+        write(x, "huts");
         told(x, "act", x.act(0, 260), -1);
-        due("tape", x.count(9), 4);
+        due("tape", x.count(9), 0);
+        told(x, "act of nothing", x.act(0, 0), -5);
         due("acts", x.count(0), 24);
         promise = 5;
         due("fault", x.fault(), NONE);
@@ -218,7 +228,7 @@ public final class PromisesTest {
         z.act(0, 260);
         due("fault behind an act that read nothing", z.fault(), 4);
         z.act(0, 0);
-        due("fault", z.fault(), 4);
+        due("fault of a text of no bytes", z.fault(), 0);
         law(z, "huts 1", 0, 0);
         due("fault behind a good act", z.fault(), NONE);
     }
