@@ -1,45 +1,5 @@
 /** Each promise of the document by itself: ordinary inputs, the edges that it names, and wrong inputs. */
-public final class PromisesTest {
-    private static final int NONE = WarHouses.NONE;
-    private static final int NOTHING = -2_000_000_000;
-    private static int wrong;
-    private static int asked;
-    private static int promise;
-
-    private static void due(String what, int got, int want) {
-        asked++;
-        if (got != want) {
-            wrong++;
-            System.out.println("promise " + promise + ": " + what + " answered " + got + ", due is " + want);
-        }
-    }
-
-    /** A telling call with its status. */
-    private static void told(WarHouses x, String what, int got, int want) {
-        due(what, got, want);
-        due("status behind " + what, x.status(), Math.min(want, 0));
-    }
-
-    private static void write(WarHouses x, String text) {
-        StringBuilder t = new StringBuilder(text);
-        while (t.length() % 20 != 0) {
-            t.append(' ');
-        }
-        for (int i = 0; i < t.length(); i += 20) {
-            int[] v = new int[5];
-            for (int j = 0; j < 20; j++) {
-                v[j / 4] = v[j / 4] << 8 | t.charAt(i + j);
-            }
-            x.feed(v[0], v[1], v[2], v[3], v[4]);
-        }
-        x.end(text.length());
-    }
-
-    private static int law(WarHouses x, String text, int from, int known) {
-        write(x, text);
-        return x.act(from, known);
-    }
-
+public final class PromisesTest extends Checks {
     private static void faultIs(String text, int place) {
         WarHouses x = new WarHouses();
         told(x, "act of '" + text + "'", law(x, text, 0, 0), place == NONE ? 0 : -6);
@@ -47,16 +7,8 @@ public final class PromisesTest {
         due("tape behind '" + text + "'", x.count(9), 0);
     }
 
-    private static String times(String text, int n) {
-        StringBuilder t = new StringBuilder();
-        for (int i = 0; i < n; i++) {
-            t.append(text);
-        }
-        return t.toString();
-    }
-
     private static void newObject() {
-        promise = 1;
+        at("promise 1");
         WarHouses x = new WarHouses();
         for (int what = 0; what < 10; what++) {
             due("count " + what, x.count(what), 0);
@@ -76,28 +28,28 @@ public final class PromisesTest {
     }
 
     private static void feedAndEnd() {
-        promise = 2;
+        at("promise 2");
         WarHouses x = new WarHouses();
         for (int i = 1; i <= 20; i++) {
             due("feed", x.feed(0, 0, 0, 0, 0), i * 20);
         }
         due("feed of a full tape", x.feed(0, 0, 0, 0, 0), NONE);
         due("bytes", x.count(9), 400);
-        promise = 3;
+        at("promise 3");
         due("end", x.end(401), NONE);
         due("end", x.end(-1), NONE);
         due("end", x.end(400), 400);
         due("end", x.end(381), 381);
-        promise = 2;
+        at("promise 2");
         due("feed beyond 400", x.feed(0, 0, 0, 0, 0), NONE);
-        promise = 3;
+        at("promise 3");
         due("end", x.end(380), 380);
-        promise = 2;
+        at("promise 2");
         due("feed to 400", x.feed(0, 0, 0, 0, 0), 400);
-        promise = 3;
+        at("promise 3");
         due("end", x.end(0), 0);
         due("end", x.end(1), NONE);
-        promise = 2;
+        at("promise 2");
         // "squa", "t 7;", "huts", " 9  ": the highest byte of each number comes first.
         due("feed", x.feed(0x73717561, 0x7420373b, 0x68757473, 0x20392020, 0x20202020), 20);
         due("act", x.act(0, 0), 0);
@@ -109,7 +61,7 @@ public final class PromisesTest {
     }
 
     private static void acts() {
-        promise = 4;
+        at("promise 4");
         WarHouses x = new WarHouses();
         int[][] wrongWeeks = {{-1, 0}, {260, 0}, {0, -1}, {0, 260}};
         for (int[] weeks : wrongWeeks) {
@@ -138,7 +90,7 @@ public final class PromisesTest {
         due("tape", x.count(9), 0);
         told(x, "act of nothing", x.act(0, 0), -5);
         due("acts", x.count(0), 24);
-        promise = 5;
+        at("promise 5");
         due("fault", x.fault(), NONE);
         faultIs("", 0);
         faultIs("   ", 3);
@@ -234,7 +186,7 @@ public final class PromisesTest {
     }
 
     private static void forces() {
-        promise = 6;
+        at("promise 6");
         WarHouses x = new WarHouses();
         law(x, "huts 1;huts 2;strike 0 clause 0;strike 1 clause 0", 5, 3);
         law(x, "strike 0 clause 1;strike 1 clause 0;strike 0 clause 9", 10, 6);
@@ -266,7 +218,7 @@ public final class PromisesTest {
     }
 
     private static void sums() {
-        promise = 7;
+        at("promise 7");
         valueIs("1 + 2 * 3", 0, 7);
         valueIs("[1 + 2] * 3", 0, 9);
         valueIs("10 - 3 - 2", 0, 5);
@@ -322,7 +274,7 @@ public final class PromisesTest {
     }
 
     private static void needs() {
-        promise = 8;
+        at("promise 8");
         WarHouses x = new WarHouses();
         law(x, "need steel shell steel rooms * 2 + week;need steel shell coal 3 - rooms;work steel shell rooms + 1", 0, 0);
         law(x, "need steel shell steel 1 / 0;need steel shell steel 99 if rooms > 5", 3, 2);
@@ -345,7 +297,7 @@ public final class PromisesTest {
     }
 
     private static void telling() {
-        promise = 9;
+        at("promise 9");
         WarHouses x = new WarHouses();
         told(x, "deliver", x.deliver(-1, 0, 1, 0), -1);
         told(x, "deliver", x.deliver(0, -1, 1, 0), -1);
@@ -360,7 +312,7 @@ public final class PromisesTest {
         due("deliveries", x.count(1), 120);
         due("stock of all", x.stock(4, 259, 259, 26), 12_000_000);
         due("stock, not known", x.stock(4, 259, 258, 0), 0);
-        promise = 10;
+        at("promise 10");
         told(x, "works", x.works(5, 0, 0, 0, 0, 1, 0, 0), -1);
         told(x, "works", x.works(0, -1, 0, 0, 0, 1, 0, 0), -1);
         told(x, "works", x.works(0, 0, -1, 0, 0, 1, 0, 0), -1);
@@ -377,7 +329,8 @@ public final class PromisesTest {
         told(x, "works", x.works(0, 0, 0, 0, 0, 1, 0, 0), -5);
         due("works", x.count(2), 8);
         due("the greatest stock", x.stock(3, 259, 0, 0), 2_080_000_000);
-        promise = 11;
+        at("promise 11");
+        x = new WarHouses();
         told(x, "gangs", x.gangs(-1, 0, 0, 0), -1);
         told(x, "gangs", x.gangs(6, 0, 0, 0), -1);
         told(x, "gangs", x.gangs(0, 51, 0, 0), -1);
@@ -388,7 +341,7 @@ public final class PromisesTest {
             told(x, "gangs", x.gangs(5, 50, 0, 0), i);
         }
         told(x, "gangs", x.gangs(0, 0, 0, 0), -5);
-        promise = 12;
+        at("promise 12");
         told(x, "plot", x.plot(6, 0, 1, 0), -1);
         told(x, "plot", x.plot(0, -1, 1, 0), -1);
         told(x, "plot", x.plot(0, 0, 0, 0), -1);
@@ -399,7 +352,7 @@ public final class PromisesTest {
         }
         told(x, "plot", x.plot(0, 0, 1, 0), -5);
         due("plots", x.count(3), 30);
-        promise = 13;
+        at("promise 13");
         told(x, "start", x.start(30, 0, 0), -2);
         told(x, "start", x.start(-1, 0, 0), -2);
         told(x, "start", x.start(30, 260, 0), -1);
@@ -416,7 +369,7 @@ public final class PromisesTest {
     }
 
     private static void stocks() {
-        promise = 14;
+        at("promise 14");
         WarHouses x = new WarHouses();
         x.deliver(0, 2, 10, 0);
         x.deliver(1, 2, 7, 5);
@@ -450,7 +403,7 @@ public final class PromisesTest {
     }
 
     private static void building() {
-        promise = 15;
+        at("promise 15");
         WarHouses x = new WarHouses();
         law(x, "need brick shell bricks 10;work brick base 1;work brick fit 2;first steel;licence brick 2", 0, 0);
         x.plot(0, 0, 1, 0);
@@ -493,7 +446,7 @@ public final class PromisesTest {
         due("the first told of the known counts", x.built(0, 0, 0, 0), 1);
         x.start(2, 13, 20);
         due("a licence of its start's quarter", x.built(2, 20, 0, 6), 0);
-        promise = 16;
+        at("promise 16");
         due("done", x.lacks(1, 4, 0), 0);
         due("waits for a gang", x.lacks(0, 3, 0), 5);
         due("waits for needs", x.lacks(0, 2, 0), 4);
@@ -519,7 +472,7 @@ public final class PromisesTest {
     }
 
     private static void firstAndOrder() {
-        promise = 15;
+        at("promise 15");
         WarHouses x = new WarHouses();
         law(x, "need brick base kits 1;need hut base kits 1;need steel base kits 1;first hut if week = 5", 0, 0);
         x.plot(0, 0, 1, 0);
@@ -588,7 +541,7 @@ public final class PromisesTest {
     }
 
     private static void knocks() {
-        promise = 17;
+        at("promise 17");
         WarHouses x = new WarHouses();
         law(x, "need brick base bricks 10;need steel base timber 1", 0, 0);
         x.plot(0, 0, 1, 0);
@@ -623,7 +576,7 @@ public final class PromisesTest {
     }
 
     private static void choices() {
-        promise = 18;
+        at("promise 18");
         WarHouses x = new WarHouses();
         for (int i = 0; i < 9; i++) {
             x.plot(0, 2, 1 + i % 3, 0);
@@ -638,22 +591,22 @@ public final class PromisesTest {
         told(x, "wish", x.wish(0), -4);
         told(x, "wish", x.wish(6), -5);
         due("wishes", x.count(5), 6);
-        promise = 20;
+        at("promise 20");
         due("best", x.best(0), 12);
-        promise = 21;
+        at("promise 21");
         due("chosen", x.chosen(5), 1);
         due("chosen", x.chosen(6), NONE);
         due("chosen", x.chosen(-2), NONE);
-        promise = 19;
+        at("promise 19");
         due("clear", x.clear(), 6);
         due("clear", x.clear(), 0);
         due("wishes", x.count(5), 0);
-        promise = 21;
+        at("promise 21");
         due("the latest best is kept", x.chosen(5), 1);
-        promise = 20;
+        at("promise 20");
         due("best", x.best(-1), NONE);
         due("best", x.best(20), NONE);
-        promise = 21;
+        at("promise 21");
         due("and one that can't be leaves it", x.chosen(5), 1);
         WarHouses y = new WarHouses();
         law(y, "need hut base kits 12 - week;work hut shell 3;work brick base 20", 0, 0);
@@ -665,18 +618,18 @@ public final class PromisesTest {
         y.wish(0);
         y.wish(1);
         y.wish(2);
-        promise = 20;
+        at("promise 20");
         due("the second hut is begun later, when it needs less", y.best(0), 5);
-        promise = 21;
+        at("promise 21");
         due("chosen", y.chosen(0), 2);
         due("the first of rows that are alike", y.chosen(1), 2);
         due("no shell of the brick house", y.chosen(2), 0);
         due("shells", y.chosen(NONE), 0);
-        promise = 22;
+        at("promise 22");
         due("bound", y.bound(0), 5);
         due("bound", y.bound(-1), NONE);
         due("bound", y.bound(20), NONE);
-        promise = 23;
+        at("promise 23");
         due("a shell", y.judge(0, 1 << 4), 1);
         due("the first alone", y.judge(0, 1), 20);
         due("both at once: the needs of the other fall till there is enough", y.judge(0, 1 + (1 << 2)), 21);
@@ -686,14 +639,14 @@ public final class PromisesTest {
         due("bits beyond", y.judge(0, -1), NONE);
         due("quarter", y.judge(20, 0), NONE);
         due("quarter", y.judge(-1, 0), NONE);
-        promise = 22;
+        at("promise 22");
         WarHouses w = new WarHouses();
         law(w, "work hut base 20 - 2 * week", 0, 0);
         w.gangs(0, 1, 0, 0);
         w.plot(0, 2, 4, 0);
         w.wish(0);
         due("in time only if it is begun last", w.bound(0), 4);
-        promise = 23;
+        at("promise 23");
         due("begun first", w.judge(0, 1), 1);
         due("begun last", w.judge(0, 3), 40);
         due("in the next quarter at once", w.judge(1, 1), 40);
@@ -703,21 +656,21 @@ public final class PromisesTest {
         z.plot(0, 0, 3, 0);
         z.wish(0);
         z.wish(1);
-        promise = 22;
+        at("promise 22");
         due("bound: the other is cleared too late", z.bound(0), 3);
         due("bound", z.bound(1), 5);
         due("best of the later quarter", z.best(1), 5);
         due("starts are not told by a choice", z.count(4), 0);
-        promise = 20;
+        at("promise 20");
         law(z, "licence brick 1", 13, 0);
         due("one licence in the quarter", z.best(1), 3);
-        promise = 21;
+        at("promise 21");
         due("so the one with more rooms", z.chosen(0), 0);
         due("so the one with more rooms", z.chosen(1), 1);
         z.start(0, 0, 0);
         z.clear();
         z.wish(1);
-        promise = 20;
+        at("promise 20");
         due("best", z.best(1), 3);
         z.plot(0, 0, 1, 0);
         z.start(2, 13, 14);
@@ -727,12 +680,12 @@ public final class PromisesTest {
         z.plot(0, 0, 1, 0);
         z.start(3, 13, 13);
         due("and one in the same week with a higher number too", z.best(1), 3);
-        promise = 23;
+        at("promise 23");
         due("but ahead of a later start", z.judge(1, 2), 0);
     }
 
     private static void families() {
-        promise = 24;
+        at("promise 24");
         WarHouses x = new WarHouses();
         told(x, "entry", x.entry(6, 0, 1, 0, 0, 0, 0), -1);
         told(x, "entry", x.entry(0, 260, 1, 0, 0, 0, 0), -1);
@@ -748,7 +701,7 @@ public final class PromisesTest {
         }
         told(x, "entry", x.entry(0, 0, 1, 0, 0, 0, 0), -5);
         due("entries", x.count(6), 60);
-        promise = 25;
+        at("promise 25");
         told(x, "mark", x.mark(60, 0, 0), -2);
         told(x, "mark", x.mark(-1, 0, 0), -2);
         told(x, "mark", x.mark(60, 3, 0), -1);
@@ -758,7 +711,7 @@ public final class PromisesTest {
         told(x, "mark", x.mark(0, 0, 0), 0);
         told(x, "mark", x.mark(0, 0, 0), -4);
         told(x, "mark", x.mark(0, 1, 9999), 0);
-        promise = 26;
+        at("promise 26");
         x.mark(1, 0, 0);
         x.mark(1, 1, 9999);
         x.mark(1, 2, 5);
@@ -793,7 +746,7 @@ public final class PromisesTest {
     }
 
     private static void ordering() {
-        promise = 27;
+        at("promise 27");
         WarHouses x = new WarHouses();
         law(x, "points persons * 100 + children * 10 + ill;points waited * 1000;points have + rooms if week > 3;points 1 / have",
             0, 0);
@@ -810,7 +763,7 @@ public final class PromisesTest {
         law(x, times("points 0 - 10000 * 10000 * 10;", 9) + "points 1", 10, 0);
         due("more", x.points(0, 9, 2), 1_000_000_000);
         due("so far below 0", x.points(0, 10, 2), -1_000_000_000);
-        promise = 28;
+        at("promise 28");
         x.entry(0, 5, 5, 2, 3, 1, 2);
         due("order goes by what they are", x.order(0, 9, 2, 0), 1);
         WarHouses y = new WarHouses();
@@ -832,7 +785,7 @@ public final class PromisesTest {
         due("council", y.order(6, 9, 4, -1), NONE);
         due("week", y.order(0, 260, 4, -1), NONE);
         due("week", y.order(0, 0, 260, -1), NONE);
-        promise = 29;
+        at("promise 29");
         law(y, "points 9 if waited > 6;points week - 9", 0, 6);
         due("beside", y.beside(0, 9, 4, 6), 2);
         due("of those known in both", y.beside(0, 9, 6, 3), 1);
@@ -845,7 +798,7 @@ public final class PromisesTest {
     }
 
     private static void offers() {
-        promise = 30;
+        at("promise 30");
         WarHouses x = new WarHouses();
         told(x, "offer", x.offer(-1), -1);
         told(x, "offer", x.offer(260), -1);
@@ -862,7 +815,7 @@ public final class PromisesTest {
         told(x, "nothing is free", x.offer(1), 0);
         told(x, "a chain of two", x.offer(2), 2);
         told(x, "a chain of three, as seven are too many", x.offer(4), 2);
-        promise = 31;
+        at("promise 31");
         due("lives", x.lives(2, 4, 0), 0);
         due("in its chain", x.lives(2, 4, 2), 0);
         due("lives", x.lives(1, 4, 0), 1);
@@ -880,7 +833,7 @@ public final class PromisesTest {
         due("week", x.lives(0, 260, 0), NONE);
         due("what", x.lives(0, 0, 3), NONE);
         due("what", x.lives(0, 0, -1), NONE);
-        promise = 32;
+        at("promise 32");
         due("roof", x.roof(0, 4), 2);
         due("roof", x.roof(0, 3), 1);
         due("roof", x.roof(1, 11), 1);
@@ -888,18 +841,18 @@ public final class PromisesTest {
         due("roof", x.roof(2, 4), NONE);
         due("roof", x.roof(3, 4), NONE);
         due("roof", x.roof(0, 260), NONE);
-        promise = 30;
+        at("promise 30");
         told(x, "a week ahead of the last", x.offer(3), -1);
         law(x, "huts 1", 0, 5);
         told(x, "they live on there, though it is known to be no home", x.offer(6), 0);
-        promise = 31;
+        at("promise 31");
         due("they live on there", x.lives(1, 11, 0), 1);
-        promise = 30;
+        at("promise 30");
         told(x, "the small one is free for them then", x.offer(12), 1);
-        promise = 31;
+        at("promise 31");
         due("lives", x.lives(0, 12, 0), 1);
         due("moves", x.count(7), 6);
-        promise = 30;
+        at("promise 30");
         WarHouses y = new WarHouses();
         for (int i = 0; i < 100; i++) {
             told(y, "offer", y.offer(0), 0);
@@ -909,7 +862,7 @@ public final class PromisesTest {
     }
 
     private static void chains() {
-        promise = 30;
+        at("promise 30");
         WarHouses x = new WarHouses();
         law(x, "points have", 0, 0);
         for (int i = 0; i < 5; i++) {
@@ -926,7 +879,7 @@ public final class PromisesTest {
         x.start(5, 3, 0);
         told(x, "a chain through all", x.offer(3), 6);
         due("moves of all offers", x.count(7), 21);
-        promise = 31;
+        at("promise 31");
         due("the top of the list has the largest", x.lives(5, 3, 0), 5);
         WarHouses w = new WarHouses();
         for (int i = 0; i < 13; i++) {
@@ -937,10 +890,10 @@ public final class PromisesTest {
             w.entry(0, 0, 2, 0, 0, 0, 0);
             w.squat(i, i, 0);
         }
-        promise = 30;
+        at("promise 30");
         told(w, "ten moves in a chain at most", w.offer(1), 10);
         told(w, "what is left of it", w.offer(1), 2);
-        promise = 31;
+        at("promise 31");
         due("the first", w.lives(12, 1, 0), 0);
         due("the tenth", w.lives(8, 1, 0), 9);
         due("the tenth", w.lives(8, 1, 2), 9);
@@ -958,17 +911,17 @@ public final class PromisesTest {
         y.mark(1, 0, 1);
         y.mark(0, 1, 1);
         y.mark(1, 1, 1);
-        promise = 30;
+        at("promise 30");
         told(y, "the council's own list", y.offer(0), 1);
         due("roof", y.roof(0, 0), 1);
         told(y, "one family has a roof", y.offer(9), 0);
-        promise = 32;
+        at("promise 32");
         due("by the other entry", y.roof(1, 9), 1);
         due("that isn't known yet", y.roof(1, 8), NONE);
     }
 
     private static void joinedFamilies() {
-        promise = 30;
+        at("promise 30");
         WarHouses x = new WarHouses();
         for (int i = 0; i < 4; i++) {
             x.plot(0, 0, i < 3 ? 1 : 4, 0);
@@ -983,22 +936,22 @@ public final class PromisesTest {
             x.mark(i, 0, 3);
             x.mark(i, 1, 3);
         }
-        promise = 32;
+        at("promise 32");
         due("in the lowest", x.roof(2, 0), 0);
-        promise = 30;
+        at("promise 30");
         due("it leaves the lowest and the one in which it squats", x.offer(5), 1);
-        promise = 31;
+        at("promise 31");
         due("left", x.lives(0, 5, 0), NONE);
         due("not left", x.lives(1, 5, 0), 1);
         due("gone in", x.lives(3, 5, 0), 0);
-        promise = 34;
+        at("promise 34");
         due("it squats no more", x.out(2, 5), -3);
-        promise = 32;
+        at("promise 32");
         due("in the lowest", x.roof(0, 5), 1);
     }
 
     private static void squatters() {
-        promise = 33;
+        at("promise 33");
         WarHouses x = new WarHouses();
         law(x, "squat 3;huts 8", 0, 0);
         x.plot(0, 2, 2, 0);
@@ -1025,17 +978,17 @@ public final class PromisesTest {
         told(x, "not on a list, but known", x.squat(1, 1, 4), 2);
         told(x, "week", x.squat(2, 1, 3), -1);
         due("squatters", x.count(8), 2);
-        promise = 31;
+        at("promise 31");
         due("who squats does not live there", x.lives(0, 4, 0), NONE);
         due("lives from then on", x.lives(0, 5, 0), 0);
         due("came in", x.lives(0, 5, 1), 2);
         due("no chain", x.lives(0, 5, 2), 0);
         due("till the end", x.lives(0, 9, 0), 0);
         due("till the end", x.lives(0, 10, 0), NONE);
-        promise = 37;
+        at("promise 37");
         due("squatters are not under it", x.under(0, 4), 0);
         due("then they are", x.under(0, 5), 2);
-        promise = 34;
+        at("promise 34");
         told(x, "week", x.out(1, 3), -1);
         told(x, "week", x.out(1, 260), -1);
         told(x, "plot", x.out(3, 4), -2);
@@ -1045,11 +998,11 @@ public final class PromisesTest {
         told(x, "out", x.out(1, 6), 0);
         told(x, "again", x.out(1, 6), -3);
         told(x, "a week ahead of it", x.offer(5), -1);
-        promise = 30;
+        at("promise 30");
         told(x, "the other on the list has it", x.offer(6), 1);
-        promise = 31;
+        at("promise 31");
         due("the other", x.lives(1, 6, 0), 2);
-        promise = 33;
+        at("promise 33");
         WarHouses y = new WarHouses();
         y.plot(0, 0, 1, 0);
         y.plot(0, 0, 3, 0);
@@ -1058,14 +1011,14 @@ public final class PromisesTest {
         y.entry(0, 0, 2, 0, 0, 0, 0);
         y.entry(0, 0, 1, 0, 0, 0, 0);
         told(y, "squat", y.squat(0, 0, 0), 1);
-        promise = 31;
+        at("promise 31");
         due("without such never", y.lives(0, 259, 0), NONE);
-        promise = 30;
+        at("promise 30");
         told(y, "who squats is offered one, and the other what they squatted in", y.offer(1), 2);
-        promise = 31;
+        at("promise 31");
         due("behind one", y.lives(0, 1, 2), 1);
         due("who", y.lives(0, 1, 0), 1);
-        promise = 33;
+        at("promise 33");
         WarHouses z = new WarHouses();
         z.plot(0, 0, 1, 0);
         z.start(0, 0, 0);
@@ -1075,7 +1028,7 @@ public final class PromisesTest {
             told(z, "out", z.out(0, i), 0);
         }
         told(z, "squat", z.squat(0, 0, 40), -5);
-        promise = 33;
+        at("promise 33");
         WarHouses u = new WarHouses();
         law(u, "squat week", 0, 0);
         u.plot(0, 0, 1, 0);
@@ -1085,7 +1038,7 @@ public final class PromisesTest {
         told(u, "squat", u.squat(0, 0, 5), 1);
         due("squat, with week that week", u.lives(0, 9, 0), NONE);
         due("squat, with week that week", u.lives(0, 10, 0), 0);
-        promise = 34;
+        at("promise 34");
         WarHouses v = new WarHouses();
         law(v, "squat 9;huts 3", 0, 0);
         v.plot(0, 2, 1, 0);
@@ -1097,7 +1050,7 @@ public final class PromisesTest {
     }
 
     private static void rents() {
-        promise = 35;
+        at("promise 35");
         WarHouses x = new WarHouses();
         law(x, "rent rooms * 100 + week;rent persons + children + have + ill + waited;rent 1 / waited;rent 0 - 900 if week = 7;"
             + "rent 10000 * 10000 * 10 if week > 20;huts 30", 0, 0);
@@ -1123,7 +1076,7 @@ public final class PromisesTest {
         due("plot", x.rent(-1, 4, 0), NONE);
         due("week", x.rent(0, 260, 0), NONE);
         due("week", x.rent(0, 4, -1), NONE);
-        promise = 36;
+        at("promise 36");
         told(x, "persons", x.lodge(0, 0, 0, 0), -1);
         told(x, "persons", x.lodge(0, 21, 0, 0), -1);
         told(x, "weeks", x.lodge(0, 1, 5, 4), -1);
@@ -1137,7 +1090,7 @@ public final class PromisesTest {
         }
         told(x, "lodge", x.lodge(0, 1, 0, 0), -5);
         told(x, "lodge", x.lodge(0, 0, 0, 0), -1);
-        promise = 37;
+        at("promise 37");
         due("under", x.under(0, 4), 4);
         due("under", x.under(0, 5), 24);
         due("under", x.under(0, 6), 43);
@@ -1151,26 +1104,26 @@ public final class PromisesTest {
 
     private static void targets() {
         WarHouses x = new WarHouses();
-        promise = 38;
+        at("promise 38");
         told(x, "target", x.target(6, 0, 0), -1);
         told(x, "target", x.target(0, 20, 0), -1);
         told(x, "target", x.target(0, 0, -1), -1);
         told(x, "target", x.target(0, 0, 10_001), -1);
         told(x, "target", x.target(5, 19, 10_000), 0);
-        promise = 39;
+        at("promise 39");
         told(x, "claim", x.claim(-1, 0, 0, 0), -1);
         told(x, "claim", x.claim(0, -1, 0, 0), -1);
         told(x, "claim", x.claim(0, 0, 20, 0), -1);
         told(x, "claim", x.claim(0, 0, 0, 1001), -1);
         told(x, "claim", x.claim(0, 0, 0, -1), -1);
         told(x, "claim", x.claim(5, 19, 19, 1000), 0);
-        promise = 40;
+        at("promise 40");
         told(x, "look", x.look(6, 0, 0, 0), -1);
         told(x, "look", x.look(0, 20, 0, 0), -1);
         told(x, "look", x.look(0, 0, -1, 0), -1);
         told(x, "look", x.look(0, 0, 0, -1), -1);
         told(x, "look", x.look(1, 2, 3, 0), 0);
-        promise = 41;
+        at("promise 41");
         due("least", x.truth(5, 19, 0), 0);
         due("most", x.truth(5, 19, 1), 1000);
         due("claimed", x.truth(5, 19, 2), 1000);
@@ -1201,7 +1154,7 @@ public final class PromisesTest {
     }
 
     private static void images() {
-        promise = 42;
+        at("promise 42");
         WarHouses x = new WarHouses();
         told(x, "image", x.image(-1), -1);
         told(x, "image", x.image(3), -1);
@@ -1234,7 +1187,7 @@ public final class PromisesTest {
         x.best(0);
         write(x, "huts");
         told(x, "image", x.image(0), 0);
-        promise = 43;
+        at("promise 43");
         told(x, "back", x.back(2), 0);
         due("tape", x.count(9), 0);
         due("wishes", x.count(5), 0);
@@ -1298,11 +1251,11 @@ public final class PromisesTest {
     }
 
     private static void countsAndStatus() {
-        promise = 44;
+        at("promise 44");
         WarHouses x = new WarHouses();
         due("count", x.count(-1), NONE);
         due("count", x.count(10), NONE);
-        promise = 45;
+        at("promise 45");
         due("status", x.status(), 0);
         x.plot(9, 0, 0, 0);
         due("status", x.status(), -1);
@@ -1352,9 +1305,6 @@ public final class PromisesTest {
         targets();
         images();
         countsAndStatus();
-        System.out.println(wrong == 0 ? "promises: " + asked + " answers are as due" : wrong + " answers are not as due");
-        if (wrong != 0) {
-            System.exit(1);
-        }
+        finish("promises");
     }
 }
