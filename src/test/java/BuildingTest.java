@@ -37,6 +37,78 @@ public final class BuildingTest extends Checks {
         due("none", z.stock(3, 259, 258, 0), 0);
     }
 
+    private static void knownFrom() {
+        at("Terms I: All that is told is KNOWN from a WEEK on");
+        for (int known = 0; known < 260; known += known == 2 ? 256 : 1) {
+            WarHouses x = new WarHouses();
+            law(x, "licence brick 0", 0, known);
+            x.plot(0, 0, 1, 0);
+            x.plot(0, 1, 1, 0);
+            x.start(0, 0, 0);
+            x.start(1, 0, known);
+            x.deliver(2, 0, 5, known);
+            due("an ACT", x.built(0, known, 0, 6), 0);
+            due("a START", x.built(1, known, 0, 6), 1);
+            due("a DELIVERY", x.stock(2, 0, known, 0), 5);
+            WarHouses y = under("work brick base 1");
+            y.plot(0, 0, 1, 0);
+            y.start(0, 0, 0);
+            y.gangs(0, 1, 0, known);
+            due("GANGS", y.built(0, known, 0, 0), 0);
+            if (known > 0) {
+                due("an ACT ahead of it", x.built(0, known - 1, 0, 6), 1);
+                due("a START ahead of it", x.built(1, known - 1, 0, 6), 0);
+                due("a DELIVERY ahead of it", x.stock(2, 0, known - 1, 0), 0);
+                due("GANGS ahead of it", y.built(0, known - 1, 0, 0), NONE);
+            }
+        }
+    }
+
+    private static void toldAnew() {
+        at("Terms I: what is asked again is as told by then");
+        WarHouses x = under("need hut base kits 1;work hut fit 1");
+        x.plot(0, 2, 1, 0);
+        due("ahead of all", x.lacks(0, 0, 0), 1);
+        x.start(0, 0, 0);
+        due("behind start()", x.lacks(0, 0, 0), 4);
+        due("ahead of deliver()", x.stock(3, 0, 0, 0), 0);
+        x.deliver(3, 0, 1, 0);
+        due("behind deliver()", x.stock(3, 0, 0, 0), 1);
+        x.works(3, 1, 3, 0, 4, 1, 1, 0);
+        due("behind works()", x.lacks(0, 0, 0), 5);
+        x.gangs(0, 1, 5, 0);
+        due("behind gangs()", x.built(0, 0, 0, 2), 5);
+        due("LATE behind gangs()", x.built(0, 0, 3, 2), 5);
+        law(x, "work hut fit 0", 0, 0);
+        due("behind act()", x.built(0, 0, 0, 2), 0);
+        due("LATE behind act()", x.built(0, 0, 3, 2), 0);
+        x.plot(0, 2, 1, 0);
+        due("behind plot()", x.lacks(1, 0, 0), 1);
+        x.image(0);
+        x.start(1, 4, 0);
+        due("behind start()", x.lacks(1, 4, 0), 4);
+        due("knock", x.knock(0, 1), 0);
+        x.back(0);
+        due("behind back()", x.lacks(1, 4, 0), 1);
+        at("Terms IV: what is asked again is as told by then");
+        WarHouses y = wished("need hut base kits 2", 2, 3);
+        due("ahead of all", y.judge(1, 1), 0);
+        due("ahead of all", y.best(1), 0);
+        y.deliver(4, 3, 1, 0);
+        due("not enough", y.judge(1, 1), 0);
+        y.works(0, 0, 0, 0, 4, 1, 1, 12);
+        due("behind works()", y.judge(1, 1), 30);
+        law(y, "need hut base kits 50", 0, 0);
+        due("behind act()", y.judge(1, 1), 0);
+        y.deliver(4, 3, 50, 0);
+        due("behind deliver()", y.judge(1, 1), 30);
+        due("behind deliver()", y.bound(1), 3);
+        y.plot(0, 2, 1, 0);
+        y.start(1, 3, 0);
+        due("behind start()", y.judge(1, 1), 0);
+        due("behind start()", y.best(1), 0);
+    }
+
     private static void lateBricks() {
         at("Terms III: those of MATERIAL 0 of the WEEK n ahead of it instead");
         for (int m = 0; m < 5; m++) {
@@ -151,6 +223,9 @@ public final class BuildingTest extends Checks {
         y.gangs(0, 1, 5, 8);
         due("of alike ones told last", y.built(0, 8, 0, 1), 5);
         due("as known ahead of it", y.built(0, 7, 0, 1), NONE);
+        due("as known ahead of all", y.built(0, 2, 0, 0), NONE);
+        due("as known then", y.built(0, 3, 0, 2), 6);
+        due("as known then", y.built(0, 4, 0, 2), 6);
         at("Terms III: gets a gang of its COUNCIL for this WEEK, if one is left");
         for (int many = 0; many <= 4; many++) {
             WarHouses z = under("work brick base 1");
@@ -375,6 +450,23 @@ public final class BuildingTest extends Checks {
         due("without \"first\" yet", z.built(0, 0, 0, 3), 5);
         due("\"first\" of this WEEK", z.built(2, 0, 0, 3), 6);
         due("as known", z.built(1, 9, 0, 3), 6);
+        WarHouses first = under("licence brick 9;licence hut 9;" + needs + ";first brick if rooms + persons + have > 0");
+        law(first, "first hut", 14, 0);
+        first.plot(0, 0, 6, 0);
+        first.plot(0, 2, 1, 0);
+        first.start(0, 14, 0);
+        first.start(1, 14, 0);
+        first.deliver(4, 14, 1, 0);
+        first.need(2, 0, 4, 6, 3, 0);
+        due("in force from then on", first.built(1, 0, 0, 3), 14);
+        due("in force from then on", first.built(0, 0, 0, 3), NONE);
+        WarHouses nothing = under(needs + ";first brick;first hut if rooms + persons + waited + have = 0");
+        nothing.plot(0, 0, 6, 0);
+        nothing.plot(0, 2, 6, 0);
+        nothing.start(0, 0, 0);
+        nothing.start(1, 0, 0);
+        nothing.deliver(4, 0, 1, 0);
+        due("rooms 0", nothing.built(1, 0, 0, 3), 0);
         at("Terms III: STARTED in this WEEK or ahead of it");
         WarHouses w = three(needs, new int[] {0, 1}, new int[] {6, 5});
         w.deliver(4, 5, 2, 0);
@@ -441,6 +533,14 @@ public final class BuildingTest extends Checks {
         v.start(1, 13, 0);
         due("in force behind the first WEEK", v.built(0, 0, 0, 6), 1);
         due("in force in the next QUARTER", v.built(1, 0, 0, 6), 0);
+        WarHouses r = under("licence hut rooms + 1");
+        for (int p = 0; p < 3; p++) {
+            r.plot(0, 2, 6, 0);
+            r.start(p, 0, 0);
+        }
+        r.need(2, 0, 0, 6, 0, 0);
+        due("rooms 0", r.built(0, 0, 0, 6), 1);
+        due("rooms 0", r.built(1, 0, 0, 6), 0);
         at("Terms III: as known in k");
         law(v, "licence hut 1", 13, 30);
         due("not known", v.built(1, 29, 0, 6), 0);
@@ -534,6 +634,22 @@ public final class BuildingTest extends Checks {
         due("DONE", y.built(0, 0, 0, 2), 13);
         due("at the end of all", y.lacks(0, 259, 0), 0);
         due("at the end of all", y.lacks(1, 259, 0), 2);
+        at("promise 16: of each PLOT");
+        WarHouses e = under("need brick base bricks 1;need steel base steel 1;need hut fit kits 1;work brick base 2");
+        int[] kinds = {0, 1, 2, 0, 1};
+        for (int p = 0; p < 5; p++) {
+            e.plot(p, kinds[p], 1, 0);
+            e.start(p, p == 3 ? 1 : 0, 0);
+        }
+        e.deliver(0, 0, 2, 0);
+        e.deliver(2, 0, 1, 0);
+        e.gangs(3, 1, 2, 0);
+        int[][] each = {{5, 5, 5, 5, 5}, {0, 0, 0, 0, 0}, {4, 4, 4, 4, 4}, {1, 5, 5, 5, 0}, {4, 4, 4, 4, 4}};
+        for (int p = 0; p < 5; p++) {
+            for (int w = 0; w < 5; w++) {
+                due("PLOT " + p + " in " + w, e.lacks(p, w, 0), each[p][w]);
+            }
+        }
         at("promise 16: as known");
         WarHouses z = new WarHouses();
         z.plot(0, 0, 1, 0);
@@ -594,6 +710,16 @@ public final class BuildingTest extends Checks {
         y.deliver(1, 4, 5, 8);
         due("as known", y.knock(7, 5), 0);
         due("as known", y.knock(8, 5), 5 - 4);
+        at("promise 17: of 30 PLOTS");
+        WarHouses all = under("need brick base bricks 1");
+        for (int p = 0; p < 30; p++) {
+            all.plot(p % 6, 0, 1, 0);
+            all.start(p, p, 0);
+            all.deliver(0, p, 1, 0);
+        }
+        due("together", all.knock(0, 26), 30 * 26);
+        due("the last", all.built(29, 0, 26, 2), 55);
+        due("the last", all.lacks(29, 28, 0), 1);
         at("promise 17: of no PLOTS");
         due("knock", new WarHouses().knock(0, 26), 0);
         at("Terms III: SHELLED, DONE and LATE do not change one another");
@@ -830,6 +956,66 @@ public final class BuildingTest extends Checks {
         due("best of six", six().best(19), 21);
     }
 
+    private static void bestOfMany() {
+        at("Terms IV: the greatest HOUSED, whenever it is begun");
+        WarHouses x = wished("work hut fit 99 if week < 8", 2, 3, 5);
+        due("both begun last", x.best(0), 8);
+        due("chosen", x.chosen(0), 3);
+        due("chosen", x.chosen(1), 3);
+        WarHouses m = wished("work hut fit 99 if week < 4 or week > 7", 2, 3, 5, 1);
+        due("all begun in between", m.best(0), 9);
+        for (int i = 0; i < 3; i++) {
+            due("chosen", m.chosen(i), 2);
+        }
+        at("Terms IV: DONE by the QUARTER's last WEEK");
+        int[] most = {13, 14};
+        for (int work : most) {
+            WarHouses y = wished("work hut fit " + work, 2, 3);
+            y.gangs(0, 1, 0, 0);
+            due("of " + work + " WEEKS", y.best(0), work == 13 ? 3 : 0);
+            due("of " + work + " WEEKS", y.best(19), work == 13 ? 3 : 0);
+            due("of " + work + " WEEKS", y.bound(19), work == 13 ? 3 : 0);
+        }
+        at("Terms IV: of alike ones the fewest SHELLS, which need not be none");
+        WarHouses z = under("need brick base kits 5;need hut base kits 5;work brick fit 99;work hut fit 99 if not week = 6");
+        z.plot(0, 0, 6, 0);
+        z.plot(0, 2, 1, 0);
+        z.deliver(4, 0, 5, 0);
+        z.deliver(4, 6, 5, 0);
+        z.wish(0);
+        z.wish(1);
+        due("what the other took keeps it waiting for a good WEEK", z.best(0), 1);
+        due("one SHELL", z.chosen(NONE), 1);
+        due("the other is begun", z.chosen(0), 1);
+        due("it is begun", z.chosen(1), 1);
+        due("judged", z.judge(0, 5), 11);
+        due("without it", z.judge(0, 4), 1);
+        at("promise 20: kept as the latest");
+        due("a worse one", z.best(1), 0);
+        due("SHELLS", z.chosen(NONE), 0);
+        due("none begun", z.chosen(0), 0);
+        due("none begun", z.chosen(1), 0);
+        at("Terms IV: each ROW by itself, whatever was asked ahead of it");
+        WarHouses w = under("need hut base kits 1;need brick base kits 3");
+        law(w, "need hut base kits 7;need brick base kits 2;first brick", 5, 0);
+        law(w, "need hut base kits 4;first hut", 9, 0);
+        w.plot(0, 2, 1, 0);
+        w.plot(0, 0, 2, 0);
+        w.deliver(4, 4, 1, 0);
+        w.deliver(4, 8, 1, 0);
+        w.deliver(4, 10, 2, 0);
+        w.wish(0);
+        w.wish(1);
+        int[] rows = {0, 10, 10, 10, 20, 30, 30, 20, 20, 30, 30, 20, 20, 30, 30, 20};
+        for (int r = 0; r < 16; r++) {
+            due("ROW " + r, w.judge(0, r), rows[r]);
+        }
+        due("best", w.best(0), 3);
+        for (int r = 15; r >= 0; r--) {
+            due("ROW " + r, w.judge(0, r), rows[r]);
+        }
+    }
+
     private static WarHouses six() {
         WarHouses x = new WarHouses();
         for (int p = 0; p < 6; p++) {
@@ -848,12 +1034,34 @@ public final class BuildingTest extends Checks {
         due("in a later QUARTER", x.bound(19), 9);
         for (int begun = 1; begun <= 3; begun++) {
             int week = (begun - 1) * 4;
-            String law = "need hut base kits 1 if not week = " + week + ";work hut base 20 if week > " + week;
-            WarHouses y = wished(law, 2, 5);
+            WarHouses y = wished("work hut fit 99 if not week = " + week, 2, 5);
             due("in time only if begun in " + week, y.bound(0), 5);
-            due("begun in " + week, y.judge(0, begun), 50);
-            due("begun elsewhere", y.judge(0, begun % 3 + 1), begun == 3 ? 50 : 0);
+            for (int other = 0; other <= 3; other++) {
+                due("begun in " + other, y.judge(0, other), other == 0 ? 0 : other == begun ? 50 : 1);
+            }
+            due("so is the best", y.best(0), 5);
+            due("begun", y.chosen(0), begun);
             due("not in the next QUARTER", y.bound(1), 0);
+            due("not in the next QUARTER", y.best(1), 0);
+        }
+        WarHouses twelve = wished("work hut fit 99 if not week = 12", 2, 5);
+        due("there is no START in its WEEK 12", twelve.bound(0), 0);
+        due("there is no START in its WEEK 12", twelve.best(0), 0);
+        for (int never = 0; never < 3; never++) {
+            WarHouses some = under("work brick fit 99");
+            for (int p = 0; p < 3; p++) {
+                some.plot(0, p == never ? 0 : 2, p + 1, 0);
+                some.wish(p);
+            }
+            due("all but one", some.bound(0), 6 - (never + 1));
+            due("all but one", some.best(0), 6 - (never + 1));
+            WarHouses one = under("work brick fit 99");
+            for (int p = 0; p < 3; p++) {
+                one.plot(0, p == never ? 2 : 0, p + 1, 0);
+                one.wish(p);
+            }
+            due("one alone", one.bound(0), never + 1);
+            due("one alone", one.best(0), never + 1);
         }
         WarHouses z = wished("work hut base 14", 2, 5, 1);
         z.gangs(0, 2, 0, 0);
@@ -867,6 +1075,19 @@ public final class BuildingTest extends Checks {
         due("a START that is known runs besides", v.bound(1), 0);
         v.deliver(4, 13, 1, 0);
         due("enough for one more", v.bound(1), 5);
+        at("Terms IV: (all as known in w)");
+        WarHouses k = wished("need hut base kits 1", 2, 5);
+        k.deliver(4, 0, 1, 13);
+        due("not known", k.bound(0), 0);
+        due("known", k.bound(1), 5);
+        due("not known", k.best(0), 0);
+        due("known", k.best(1), 5);
+        WarHouses later = wished("need hut base kits 1", 2, 5);
+        later.deliver(4, 0, 1, 14);
+        due("not known", later.bound(1), 0);
+        due("not known", later.best(1), 0);
+        due("known", later.bound(2), 5);
+        due("known", later.best(2), 5);
         at("promise 22: NONE");
         due("bound", v.bound(20), NONE);
         due("bound", v.bound(-1), NONE);
@@ -874,6 +1095,8 @@ public final class BuildingTest extends Checks {
 
     public static void main(String[] args) {
         deliveries();
+        knownFrom();
+        toldAnew();
         lateBricks();
         works();
         gangs();
@@ -889,6 +1112,7 @@ public final class BuildingTest extends Checks {
         rows();
         besidesOthers();
         best();
+        bestOfMany();
         bound();
         finish("building");
     }

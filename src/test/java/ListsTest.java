@@ -354,6 +354,46 @@ public final class ListsTest extends Checks {
             due(laws[i] + " in 5", z.rent(0, 5, 0), last[i] >= 5 ? 7 : NONE);
             due(laws[i] + " in 259", z.rent(0, 259, 0), last[i] >= 259 ? 7 : NONE);
         }
+        at("Terms V: of an end in WEEK 1");
+        WarHouses one = under("huts 1");
+        house(one, HUT, 1, 0);
+        listed(one, 1, 0);
+        one.image(0);
+        told(one, "offer in WEEK 0", one.offer(0), 1);
+        due("lives", one.lives(0, 0, 0), 0);
+        due("its end", one.lives(0, 1, 0), NONE);
+        one.back(0);
+        told(one, "squat in WEEK 0", one.squat(0, 0, 0), 1);
+        one.back(0);
+        told(one, "squat in WEEK 1", one.squat(0, 0, 1), -3);
+        told(one, "offer in WEEK 1", one.offer(1), 0);
+        at("Terms V: rooms 0 (what isn't told of there)");
+        WarHouses six = under("huts rooms + persons + have + 2;squat rooms + persons + have + 2");
+        house(six, HUT, 6, 0);
+        house(six, 0, 6, 0);
+        six.entry(0, 0, 6, 0, 6, 0, 0);
+        six.need(0, 0, 0, 6, 0, 0);
+        due("points", six.points(0, 0, 0), 0);
+        due("a HOME", six.rent(0, 1, 0), 0);
+        due("its end", six.rent(0, 2, 0), NONE);
+        six.squat(0, 1, 3);
+        due("squats", six.lives(1, 4, 0), NONE);
+        due("lives", six.lives(1, 5, 0), 0);
+        at("Terms V: LATE by 0, in offer() and squat(), too");
+        WarHouses late = under("need brick base bricks 1");
+        house(late, 0, 1, 0);
+        house(late, 0, 1, 0);
+        late.deliver(0, 5, 1, 0);
+        late.deliver(0, 7, 1, 0);
+        listed(late, 1, 0);
+        listed(late, 1, 0);
+        due("knock", late.knock(0, 3), 6);
+        told(late, "not DONE", late.offer(4), 0);
+        told(late, "DONE", late.offer(5), 1);
+        told(late, "not DONE", late.squat(1, 1, 6), -3);
+        due("stock", late.stock(0, 7, 0, 5), 0);
+        told(late, "DONE", late.squat(1, 1, 7), 1);
+        due("rent", late.rent(1, 7, 0), 0);
         at("Terms V: in the RUN as known in k, LATE by 0");
         WarHouses w = under("rent 7;need brick base bricks 1");
         w.plot(0, 0, 1, 0);
@@ -541,6 +581,21 @@ public final class ListsTest extends Checks {
         due("lives", y.lives(0, 4, 0), 0);
         due("since", y.lives(0, 4, 1), 4);
         due("nobody", y.lives(1, 4, 0), NONE);
+        at("Terms V: 30 PLOTS and 60 ENTRIES");
+        WarHouses full = under("points have");
+        for (int p = 0; p < 30; p++) {
+            full.plot(p % 6, 0, 1 + p / 6, 0);
+            full.start(p, 0, 0);
+        }
+        for (int e = 0; e < 60; e++) {
+            full.entry(e % 6, 0, 1, 0, e / 6, 0, 0);
+        }
+        told(full, "one more in each PLOT's chain", full.offer(0), 6 * 15);
+        for (int p = 0; p < 30; p++) {
+            due("lives in " + p, full.lives(p, 0, 0), 30 + p);
+            due("roof of " + p, full.roof(30 + p, 0), p);
+            due("moves ahead of it", full.lives(p, 0, 2), 4 - p / 6);
+        }
         at("Terms V: if it is a HOME in w as known in w");
         WarHouses z = under("points have;huts 9");
         law(z, "huts 2", 0, 4);
@@ -991,22 +1046,25 @@ public final class ListsTest extends Checks {
         x.start(p + 1, 0, 0);
         x.plot(2, 0, n, 0);
         x.start(p + 2, 0, 0);
+        x.plot(3, STEEL, n, 0);
+        x.start(p + 3, 0, 0);
         int e = x.entry(0, 0, n, 0, 0, 0, 0);
         x.entry(1, 0, 1, 0, 0, 0, 0);
+        x.entry(2, 259, 1, 0, 0, 0, 0);
         x.mark(e, 0, 1);
         x.mark(e, 1, n);
         x.mark(e + 1, 0, 1);
         x.mark(e + 1, 1, n);
         x.offer(10 * n);
-        x.squat(e + 1, p + 1, 10 * n);
+        x.squat(e + 2, p + 3, 10 * n);
         x.lodge(p, n, 0, 259);
-        x.target(0, n, n);
+        x.target(0, n, 0);
         x.claim(0, n, 0, n);
         x.look(0, n, 1, n);
     }
 
     private static int[] all(WarHouses x) {
-        int[] seen = new int[80];
+        int[] seen = new int[100];
         int n = 0;
         for (int what = 0; what < 9; what++) {
             seen[n++] = x.count(what);
@@ -1018,7 +1076,7 @@ public final class ListsTest extends Checks {
         for (int m = 1; m < 3; m++) {
             seen[n++] = x.stock(m, 259, 259, 0);
         }
-        for (int p = 0; p < 9; p++) {
+        for (int p = 0; p < 12; p++) {
             seen[n++] = x.built(p, 259, 0, 2);
             seen[n++] = x.lives(p, 30, 0);
             seen[n++] = x.lives(p, 30, 1);
@@ -1048,16 +1106,38 @@ public final class ListsTest extends Checks {
             told(one, "image", one.image(k), 0);
             holds("image changes nothing", same(kept[k], all(one)));
         }
-        WarHouses x = new WarHouses();
-        for (int k = 0; k < 3; k++) {
-            told(x, "not kept", x.back(k), -2);
-            tellAll(x, k + 1);
-            told(x, "image", x.image(k), 0);
+        int[][] ways = {{0, 2, 1}, {1, 1, 0}, {2, 0, 0}};
+        for (int[] way : ways) {
+            WarHouses x = new WarHouses();
+            for (int k = 0; k < 3; k++) {
+                told(x, "not kept", x.back(k), -2);
+                tellAll(x, k + 1);
+                told(x, "image", x.image(k), 0);
+            }
+            for (int k : way) {
+                told(x, "back", x.back(k), 0);
+                holds("as it was kept in " + k, same(kept[k], all(x)));
+            }
         }
-        int[] ways = {0, 2, 1, 1, 0};
-        for (int k : ways) {
-            told(x, "back", x.back(k), 0);
-            holds("as it was kept in " + k, same(kept[k], all(x)));
+        at("promise 43: what was told behind an IMAGE in one way is not there in another");
+        int[][] ends = new int[4][];
+        for (int n = 2; n < 4; n++) {
+            WarHouses one = new WarHouses();
+            tellAll(one, 1);
+            tellAll(one, n);
+            ends[n] = all(one);
+        }
+        WarHouses both = new WarHouses();
+        tellAll(both, 1);
+        both.image(0);
+        for (int n = 2; n < 4; n++) {
+            both.back(0);
+            tellAll(both, n);
+            both.image(n - 1);
+        }
+        for (int n = 3; n > 1; n--) {
+            both.back(n - 1);
+            holds("as it was kept", same(ends[n], all(both)));
         }
         at("promise 43: told anew behind BACK");
         WarHouses y = new WarHouses();
@@ -1068,15 +1148,17 @@ public final class ListsTest extends Checks {
         y.back(2);
         tellAll(y, 2);
         holds("the same again", same(two, all(y)));
-        y.back(2);
-        tellAll(y, 3);
-        holds("another", !same(two, all(y)));
         at("promise 42: kept anew");
-        y.image(2);
-        int[] three = all(y);
-        tellAll(y, 4);
-        y.back(2);
-        holds("the latest", same(three, all(y)));
+        WarHouses v = new WarHouses();
+        tellAll(v, 1);
+        v.image(2);
+        tellAll(v, 3);
+        holds("another", !same(two, all(v)));
+        v.image(2);
+        int[] three = all(v);
+        tellAll(v, 4);
+        v.back(2);
+        holds("the latest", same(three, all(v)));
         at("promise 43: to an empty IMAGE");
         WarHouses z = new WarHouses();
         int[] none = all(z);
@@ -1088,6 +1170,45 @@ public final class ListsTest extends Checks {
         WarHouses w = new WarHouses();
         tellAll(w, 1);
         holds("as a new one", same(all(w), all(z)));
+    }
+
+    private static void backOfMarks() {
+        at("promise 43: what is asked behind BACK is as it was kept");
+        WarHouses x = new WarHouses();
+        house(x, 0, 1, 0);
+        listed(x, 1, 0);
+        listed(x, 1, 0);
+        marks(x, 0, 1, 1, NONE);
+        marks(x, 1, 1, NONE, NONE);
+        x.image(0);
+        due("apart", x.family(1, 0), 1);
+        marks(x, 1, NONE, 1, NONE);
+        due("one FAMILY", x.family(1, 0), 0);
+        x.image(1);
+        x.back(0);
+        due("apart", x.family(1, 0), 1);
+        x.back(1);
+        due("one FAMILY", x.family(1, 0), 0);
+        x.offer(0);
+        due("a roof for both", x.roof(1, 0), 0);
+        x.back(0);
+        x.offer(0);
+        due("a roof for one", x.roof(1, 0), NONE);
+        due("a roof for one", x.roof(0, 0), 0);
+        at("promise 43: of the RUN, too");
+        WarHouses y = new WarHouses();
+        y.plot(0, 0, 1, 0);
+        y.start(0, 3, 0);
+        y.image(0);
+        law(y, "need brick base bricks 1", 0, 0);
+        due("needs", y.lacks(0, 3, 0), 4);
+        y.image(1);
+        y.back(0);
+        due("none", y.lacks(0, 3, 0), 0);
+        due("need", y.need(0, 0, 0, 1, 0, 0), 0);
+        y.back(1);
+        due("needs", y.lacks(0, 3, 0), 4);
+        due("need", y.need(0, 0, 0, 1, 0, 0), 1);
     }
 
     private static boolean same(int[] one, int[] other) {
@@ -1316,6 +1437,7 @@ public final class ListsTest extends Checks {
         lodgers();
         truths();
         images();
+        backOfMarks();
         backOfLimits();
         counting();
         status();

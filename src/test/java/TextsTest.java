@@ -177,6 +177,14 @@ public final class TextsTest extends Checks {
         fault("`huts 1", 0);
         faultAtMark("!Huts 1");
         faultAtMark("!hutS 1");
+        faultAtMark("!hutsz 1");
+        faultAtMark("!zhuts 1");
+        faultAtMark("!ahuts 1");
+        faultAtMark("!hutsa 1");
+        at("Terms II: 0 .. 9");
+        good("huts 9090");
+        faultAtMark("huts 1!a");
+        faultAtMark("huts 1!z");
         at("Terms II: FAULT: the first TOKEN that can't go on there (the end's: the TEXT's length)");
         faultAtMark("huts");
         faultAtMark("huts   ");
@@ -214,6 +222,10 @@ public final class TextsTest extends Checks {
         good("strike 0 clause 0");
         faultAtMark("strike!");
         faultAtMark("strike !clause 0");
+        faultAtMark("strike 0");
+        faultAtMark("strike 0!;huts 1");
+        faultAtMark("strike!;huts 1");
+        faultAtMark("strike 0 clause!;huts 1");
         faultAtMark("strike 0 !0");
         faultAtMark("strike 0 clause !x");
         faultAtMark("strike 0 clause");
@@ -261,7 +273,14 @@ public final class TextsTest extends Checks {
                 }
             }
         }
-        faultAtMark("first");
+        String[] heads = {"need", "need brick", "need brick base", "need brick base bricks", "work", "work hut", "work hut fit",
+            "points", "licence", "licence steel", "rent", "huts", "squat", "first"};
+        for (String head : heads) {
+            faultAtMark(head);
+            faultAtMark(head + "!;huts 1");
+            faultAtMark(head + " !if 1 = 1");
+            faultAtMark(head + " !strike 0 clause 0");
+        }
         faultAtMark("first !bricks");
         faultAtMark("first !huts");
         faultAtMark("licence !bricks 1");
@@ -384,6 +403,7 @@ public final class TextsTest extends Checks {
         at("Terms II: 8 brackets of all kinds within one another (FAULT at the 9th's first TOKEN)");
         good("huts " + times("[", 8) + "1" + times("]", 8));
         faultAtMark("huts " + times("[", 8) + "![1" + times("]", 9));
+        faultAtMark("huts " + times("[", 8) + "!" + times("]", 8));
         good("huts 1 if " + times("(", 8) + "1=1" + times(")", 8));
         faultAtMark("huts 1 if " + times("(", 8) + "!(1=1" + times(")", 9));
         good("huts 1 if " + times("(", 4) + times("[", 4) + "1" + times("]", 4) + "=1" + times(")", 4));
@@ -635,6 +655,13 @@ public final class TextsTest extends Checks {
         huts("9 if 1=0 and 1/0=1 and 1/0=1 or 1=1 or 1/0=1", 0, 9);
         huts("9 if (1=1 or 1/0=1) and 1/0=1", 0, NONE);
         huts("9 if 1=0 or 1=0 or 1=1 or 1/0=1", 0, 9);
+        at("Terms II: as many as a TEXT has room for");
+        huts("9 if 1=1" + times(" and 1=1", 28), 0, 9);
+        huts("9 if 1=0" + times(" or 1=0", 27) + " or 1=1", 0, 9);
+        huts("9 if 1=1" + times(" and 1=1", 27) + " and 1=0", 0, NONE);
+        huts("9 if 1=0" + times(" or 1=0", 28), 0, NONE);
+        huts("9 if " + times("not ", 90) + "1=1", 0, 9);
+        huts("9 if " + times("not ", 91) + "1=1", 0, NONE);
         at("Terms II: neither is BROKEN, nor its SUM");
         huts("1/0 if 1=1", 0, NONE);
         huts("1/0", 0, NONE);
@@ -706,6 +733,21 @@ public final class TextsTest extends Checks {
         }
         for (int i = 0; i < 54; i++) {
             due("need " + i, all.need(i / 18, i / 6 % 3, i % 6, 1, 0, 0), valueOf(i / 18, i / 6 % 3, i % 6));
+        }
+        at("Terms II: each HEAD counts by itself");
+        WarHouses h = under("work brick base 1;need hut fit kits 2;work hut fit 3;points 4;licence brick 5;licence steel 6;"
+            + "licence hut 7;rent 8;huts 9;squat 10;first hut;strike 9 clause 9");
+        h.plot(0, 1, 1, 0);
+        h.start(0, 0, 0);
+        h.entry(0, 0, 1, 0, 0, 0, 0);
+        due("need", h.need(2, 2, 4, 1, 0, 0), 2);
+        due("work", h.need(2, 2, 5, 1, 0, 0), 3);
+        due("work", h.need(0, 0, 5, 1, 0, 0), 1);
+        due("points", h.points(0, 0, 0), 4);
+        due("rent", h.rent(0, 0, 0), 8);
+        int[] values = {5, 6, 7, 9, 10, 2};
+        for (int i = 0; i < values.length; i++) {
+            due("counts", h.counts(i, 0, 0), values[i]);
         }
         at("promise 8: for so many rooms (1 .. 6)");
         WarHouses r = under("need steel fit coal rooms * 10;work steel fit rooms;work steel fit 99 if rooms = 6");
