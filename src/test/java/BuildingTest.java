@@ -977,7 +977,7 @@ public final class BuildingTest extends Checks {
             due("of " + work + " WEEKS", y.bound(19), work == 13 ? 3 : 0);
         }
         at("Terms IV: of alike ones the fewest SHELLS, which need not be none");
-        WarHouses z = under("need brick base kits 5;need hut base kits 5;work brick fit 99;work hut fit 99 if not week = 6");
+        WarHouses z = under("need brick base kits 5;need hut base kits 5;work brick base 99;work hut fit 99 if not week = 6");
         z.plot(0, 0, 6, 0);
         z.plot(0, 2, 1, 0);
         z.deliver(4, 0, 5, 0);

@@ -696,6 +696,57 @@ public final class ListsTest extends Checks {
         due("not known", w.roof(1, 4), NONE);
     }
 
+    private static void kept() {
+        at("Terms V: Moves are kept as they were done");
+        WarHouses x = under("points 0 - persons");
+        house(x, 0, 2, 0);
+        house(x, 0, 1, 0);
+        house(x, 0, 3, 1);
+        for (int e = 0; e < 3; e++) {
+            listed(x, 1, 0);
+        }
+        x.squat(0, 1, 0);
+        told(x, "a chain of two", x.offer(0), 2);
+        told(x, "a chain of three", x.offer(1), 3);
+        int[][] lived = {{0, 1, NONE}, {1, 2, 0}};
+        int[][] chains = {{0, 1, NONE}, {1, 2, 0}};
+        for (int week = 0; week < 2; week++) {
+            for (int p = 0; p < 3; p++) {
+                due("in " + p + " in WEEK " + week, x.lives(p, week, 0), lived[week][p]);
+                due("moves ahead of it", x.lives(p, week, 2), chains[week][p]);
+                due("since", x.lives(p, week, 1), lived[week][p] == NONE ? NONE : week);
+            }
+        }
+        for (int week = 2; week < 6; week++) {
+            x.offer(week);
+            due("still", x.lives(1, 0, 0), 1);
+            due("still", x.lives(1, week, 0), 2);
+        }
+        at("Terms V: or its end (as known in w), whatever becomes known later");
+        WarHouses y = under("squat 2;huts 5");
+        law(y, "huts 20", 0, 6);
+        house(y, HUT, 1, 0);
+        house(y, 0, 1, 0);
+        for (int e = 0; e < 3; e++) {
+            y.entry(1, 0, e + 1, 0, 0, 0, 0);
+        }
+        y.squat(2, 1, 0);
+        y.squat(0, 0, 0);
+        told(y, "out in the same WEEK", y.out(1, 0), 0);
+        told(y, "a HOME again, as known by then", y.squat(1, 0, 7), 3);
+        due("squats", y.lives(0, 1, 0), NONE);
+        due("lives", y.lives(0, 2, 0), 0);
+        due("lives", y.lives(0, 4, 0), 0);
+        due("its end as it was known", y.lives(0, 5, 0), NONE);
+        due("nobody", y.lives(0, 6, 0), NONE);
+        due("squats", y.lives(0, 8, 0), NONE);
+        due("lives", y.lives(0, 9, 0), 1);
+        due("lives", y.lives(0, 19, 0), 1);
+        due("its end as it was known then", y.lives(0, 20, 0), NONE);
+        due("persons", y.under(0, 4), 1);
+        due("persons", y.under(0, 9), 2);
+    }
+
     private static void joined() {
         at("Terms V: A FAMILY that was joined lives in the lowest of those in which it lives, and squats in the lowest of the others");
         WarHouses x = under("points have");
@@ -961,6 +1012,15 @@ public final class ListsTest extends Checks {
         marks(y, 0, 1, 1, 1);
         marks(y, 1, 1, 1, 1);
         due("of the ENTRY, not of its FAMILY", y.under(0, 20), 6);
+        WarHouses z = new WarHouses();
+        for (int p = 0; p < 3; p++) {
+            house(z, 0, 3, 0);
+            listed(z, 4 + p, 0);
+        }
+        z.offer(0);
+        for (int p = 0; p < 3; p++) {
+            due("those who live in " + p, z.under(p, 0), 4 + p);
+        }
         at("promise 36: a PLOT that is no HOME can have been told");
         y.plot(0, 0, 1, 0);
         told(y, "lodge", y.lodge(1, 1, 0, 259), 3);
@@ -1035,7 +1095,9 @@ public final class ListsTest extends Checks {
 
     /** Tells one more of all that can be told, the n-th of its sort. */
     private static void tellAll(WarHouses x, int n) {
-        law(x, "huts " + (50 + n) + ";squat " + n + ";points " + n + ";rent " + n + ";work brick fit " + n, 0, 0);
+        String odd = "huts " + (50 + n) + ";squat " + n + ";points " + n + ";rent " + n + ";work brick fit " + n;
+        String even = "work brick fit " + n + ";first hut;points " + n + ";points 1;squat " + n + ";rent " + n + ";rent 1";
+        law(x, n % 2 == 0 ? even : odd, 0, 0);
         x.deliver(1, 0, 100 + n, 0);
         x.works(1, 1, 1, 0, 2, 1, n, 0);
         x.gangs(0, 10, 0, 0);
@@ -1122,11 +1184,24 @@ public final class ListsTest extends Checks {
         at("promise 43: what was told behind an IMAGE in one way is not there in another");
         int[][] ends = new int[4][];
         for (int n = 2; n < 4; n++) {
-            WarHouses one = new WarHouses();
-            tellAll(one, 1);
-            tellAll(one, n);
-            ends[n] = all(one);
+            WarHouses way = new WarHouses();
+            tellAll(way, 1);
+            tellAll(way, n);
+            ends[n] = all(way);
         }
+        WarHouses from = new WarHouses();
+        from.image(0);
+        tellAll(from, 1);
+        int[] one = all(from);
+        from.image(1);
+        from.back(0);
+        tellAll(from, 2);
+        int[] two = all(from);
+        from.image(2);
+        from.back(1);
+        holds("as it was kept", same(one, all(from)));
+        from.back(2);
+        holds("as it was kept", same(two, all(from)));
         WarHouses both = new WarHouses();
         tellAll(both, 1);
         both.image(0);
@@ -1144,16 +1219,16 @@ public final class ListsTest extends Checks {
         tellAll(y, 1);
         y.image(2);
         tellAll(y, 2);
-        int[] two = all(y);
+        int[] again = all(y);
         y.back(2);
         tellAll(y, 2);
-        holds("the same again", same(two, all(y)));
+        holds("the same again", same(again, all(y)));
         at("promise 42: kept anew");
         WarHouses v = new WarHouses();
         tellAll(v, 1);
         v.image(2);
         tellAll(v, 3);
-        holds("another", !same(two, all(v)));
+        holds("another", !same(again, all(v)));
         v.image(2);
         int[] three = all(v);
         tellAll(v, 4);
@@ -1430,6 +1505,7 @@ public final class ListsTest extends Checks {
         whoIsOffered();
         chains();
         movesInOrder();
+        kept();
         joined();
         squatters();
         squatting();

@@ -1282,12 +1282,16 @@ public final class PlainModelTest {
     private static final Random random = new Random();
     private static int wrong;
     private static long calls;
+    // Calls of the object at hand, each with its status; the document promises nothing behind the 512th.
+    private static int used;
+    private static final int ENOUGH = 380;
     private static WarHouses x;
     private static Plain y;
     private static int seed;
 
     private static void same(String call, int got, int due) {
         calls++;
+        used += 2;
         if (got != due && wrong++ < 20) {
             System.out.println("seed " + seed + ": " + call + " answered " + got + ", due is " + due);
         }
@@ -1810,6 +1814,7 @@ public final class PlainModelTest {
         random.setSeed(number);
         x = new WarHouses();
         y = new Plain();
+        used = 0;
         span = new int[] {8, 20, 45, 259}[upTo(3)];
         if (number % 5 == 0) {
             quarter();
@@ -1822,7 +1827,7 @@ public final class PlainModelTest {
         if (town) {
             town();
         }
-        for (int i = 0; i < steps; i++) {
+        for (int i = 0; i < steps && used < ENOUGH; i++) {
             int r = upTo(99);
             if (!town && i < 20 || r < (town ? 15 : 45)) {
                 tell();
@@ -1840,7 +1845,7 @@ public final class PlainModelTest {
 
     public static void main(String[] args) {
         int first = args.length > 0 ? Integer.parseInt(args[0]) : 1;
-        int runs = args.length > 1 ? Integer.parseInt(args[1]) : 300;
+        int runs = args.length > 1 ? Integer.parseInt(args[1]) : 500;
         for (int i = first; i < first + runs && wrong < 20; i++) {
             oneRun(i);
         }

@@ -181,7 +181,14 @@ public final class TextsTest extends Checks {
         faultAtMark("!zhuts 1");
         faultAtMark("!ahuts 1");
         faultAtMark("!hutsa 1");
+        fault("huts{ 1", 4);
+        fault("huts` 1", 4);
+        fault("huts@ 1", 4);
         at("Terms II: 0 .. 9");
+        fault("huts 5:", 6);
+        fault("huts 5:5", 6);
+        fault("huts 5/", 7);
+        good("huts 5/5");
         good("huts 9090");
         faultAtMark("huts 1!a");
         faultAtMark("huts 1!z");
@@ -287,6 +294,12 @@ public final class TextsTest extends Checks {
         faultAtMark("work !bricks base 1");
         faultAtMark("work brick !bricks 1");
         faultAtMark("work brick !brick 1");
+        faultAtMark("need brick !bricks 1");
+        faultAtMark("need brick !1");
+        faultAtMark("need brick !timber base 1");
+        faultAtMark("work brick !1");
+        faultAtMark("work !1");
+        faultAtMark("licence !base 1");
         faultAtMark("need !timber base bricks 1");
         faultAtMark("need brick base !brick 1");
         faultAtMark("need brick base !huts 1");
