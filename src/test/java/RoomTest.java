@@ -1,28 +1,13 @@
 import java.lang.management.ManagementFactory;
 
 /** All calls of one run live in one room: what 512 calls make stays far below it. Long runs of wild numbers throw nothing. */
-public final class RoomTest {
+public final class RoomTest extends Checks {
     // 7.3 million elements are 29 million bytes at four each; one object's run must stay far below.
     private static final long MOST_BYTES = 3_000_000L;
-    private static int wrong;
 
     private static long made() {
         return ((com.sun.management.ThreadMXBean) ManagementFactory.getThreadMXBean())
             .getThreadAllocatedBytes(Thread.currentThread().getId());
-    }
-
-    private static void write(WarHouses x, String text) {
-        StringBuilder t = new StringBuilder(text);
-        while (t.length() % 20 != 0) {
-            t.append(' ');
-        }
-        for (int i = 0; i < t.length(); i += 20) {
-            int[] v = new int[5];
-            for (int j = 0; j < 20; j++) {
-                v[j / 4] = v[j / 4] << 8 | t.charAt(i + j);
-            }
-            x.feed(v[0], v[1], v[2], v[3], v[4]);
-        }
     }
 
     private static void fill(WarHouses x) {
@@ -30,10 +15,7 @@ public final class RoomTest {
             write(x, "need brick base bricks rooms*3;work brick base 2;need hut shell kits least[rooms,3];work hut fit 1;"
                 + "points persons*9+waited if ill=0 or have<3;huts 40;squat 3;licence brick 2;rent rooms*3;first hut if week>9;"
                 + "points 1+1+1+1+1+1+1+1+1+1+1+1+1+1+1+1+1+1;work steel base 3;need steel fit steel 4");
-            if (x.act(0, 0) != a) {
-                System.out.println("the act can't be, at " + x.fault());
-                wrong++;
-            }
+            told(x, "act", x.act(0, 0), a);
         }
         for (int i = 0; i < 8; i++) {
             x.works(i % 5, 1, (i + 1) % 5, 1, (i + 2) % 5, 3, 9, 0);
@@ -64,7 +46,7 @@ public final class RoomTest {
         WarHouses x = new WarHouses();
         fill(x);
         int callsEach = which == 2 || which == 3 ? 2 : which == 5 ? 3 : 1;
-        int left = (512 - 380) / callsEach;
+        int left = (512 - 390) / callsEach;
         for (int i = 0; i < left; i++) {
             switch (which) {
                 case 0:
@@ -93,9 +75,7 @@ public final class RoomTest {
         }
         long bytes = made() - before;
         System.out.println("room: " + name + " made " + bytes + " bytes");
-        if (bytes > MOST_BYTES) {
-            wrong++;
-        }
+        holds(name + " makes no more than " + MOST_BYTES + " bytes", bytes <= MOST_BYTES);
     }
 
     private static int wild(java.util.Random r) {
@@ -129,6 +109,7 @@ public final class RoomTest {
     }
 
     public static void main(String[] args) throws Exception {
+        at("the room");
         dearest("best", 0);
         dearest("image", 1);
         dearest("back", 2);
@@ -138,9 +119,6 @@ public final class RoomTest {
         for (int seed = 0; seed < 300; seed++) {
             wildCalls(seed);
         }
-        if (wrong != 0) {
-            System.out.println(wrong + " runs made too much");
-            System.exit(1);
-        }
+        finish("room");
     }
 }
