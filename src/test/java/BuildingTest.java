@@ -109,6 +109,37 @@ public final class BuildingTest extends Checks {
         due("behind start()", y.best(1), 0);
     }
 
+    private static void allFull() {
+        at("Terms II and III: as many ACTS, DELIVERIES, WORKS, GANGS, PLOTS and STARTS as there may be");
+        WarHouses x = new WarHouses();
+        for (int i = 0; i < 24; i++) {
+            law(x, "need hut base kits " + (i + 1) + ";work hut fit 1", i, i);
+        }
+        for (int i = 0; i < 30; i++) {
+            x.plot(i % 6, 2, 1 + i / 6, 0);
+            x.start(i, i, 0);
+            x.start(i, 0, 1);
+        }
+        for (int i = 0; i < 60; i++) {
+            x.gangs(i % 6, 1 + i / 6, i / 6, 0);
+        }
+        for (int i = 0; i < 120; i++) {
+            x.deliver(i % 2 * 4, i / 2, 24, 0);
+        }
+        for (int i = 0; i < 8; i++) {
+            x.works(0, 1, 4, 2, 1, 10, 1, 250);
+        }
+        told(x, "no room", x.start(0, 0, 0), -5);
+        for (int i = 0; i < 30; i++) {
+            due("PLOT " + i, x.built(i, 259, 0, 2), i);
+            due("PLOT " + i + " as known in 0", x.built(i, 0, 0, 2), i);
+        }
+        due("left", x.stock(4, 40, 259, 0), 41 * 24 - (23 * 24 / 2 + 7 * 24));
+        due("left as known in 0", x.stock(4, 40, 0, 0), 41 * 24 - 30);
+        due("no knock", x.knock(259, 26), 0);
+        due("given", x.stock(1, 250, 259, 0), 80);
+    }
+
     private static void lateBricks() {
         at("Terms III: those of MATERIAL 0 of the WEEK n ahead of it instead");
         for (int m = 0; m < 5; m++) {
@@ -343,6 +374,20 @@ public final class BuildingTest extends Checks {
         due("rooms of the other", z.built(1, 5, 0, 3), 7);
         due("all taken", z.stock(4, 7, 5, 0), 0);
         due("not known", z.built(0, 4, 0, 3), NONE);
+        WarHouses v = under("need brick base bricks rooms;need brick shell timber 9;need brick base kits rooms;need brick fit coal 7");
+        int[] rooms = {2, 1, 2, 6, 5, 6, 1};
+        for (int p = 0; p < rooms.length; p++) {
+            v.plot(0, 0, rooms[p], 0);
+            v.start(p, 3, 0);
+        }
+        v.deliver(0, 0, 23, 0);
+        v.deliver(4, 0, 24, 0);
+        for (int p = 0; p < rooms.length; p++) {
+            due("rooms of PLOT " + p, v.built(p, 0, 0, 3), 3);
+            due("shell of PLOT " + p, v.built(p, 0, 0, 4), NONE);
+        }
+        due("all taken", v.stock(0, 3, 0, 0), 0);
+        due("one left", v.stock(4, 3, 0, 0), 1);
         at("Terms III: what the DELIVERIES and WORKS of this WEEK brought is there");
         WarHouses w = under("need hut base kits 2");
         w.plot(0, 2, 1, 0);
@@ -1097,6 +1142,7 @@ public final class BuildingTest extends Checks {
         deliveries();
         knownFrom();
         toldAnew();
+        allFull();
         lateBricks();
         works();
         gangs();
