@@ -421,7 +421,25 @@ public final class WarHouses {
         }
         choice.openQuarter(quarter, knowing(quarter * QUARTER_WEEKS), buildings);
         choice.forget();
-        choice.branch(0, (1 << choice.wished) - 1);
+        // All ROWS, by those that begin at each of three times: what was played for one time serves all that go on from
+        // there. No ROW has more HOUSED than the ROOMS that it begins.
+        int all = (1 << choice.wished) - 1;
+        for (int first = all; first >= 0; first--) {
+            choice.playTime(0, first);
+            for (int second = all; second >= 0; second--) {
+                if ((second & first) != 0) {
+                    continue;
+                }
+                choice.playTime(1, second);
+                int begun = first | second;
+                for (int third = all; third >= 0; third--) {
+                    if ((third & begun) == 0 && choice.roomsOfAll(begun | third) >= choice.keptHoused) {
+                        choice.playTime(2, third);
+                        choice.keepIfBetter();
+                    }
+                }
+            }
+        }
         return choice.keptHoused;
     }
 
@@ -1057,7 +1075,16 @@ public final class WarHouses {
             parts = 0;
             tokenEnd = 0;
             step();
-            return readText() ? NONE : token;
+            while (clauses < MOST_CLAUSES && readClause()) {
+                clauses++;
+                if (sort == SORT_END) {
+                    return NONE;
+                }
+                if (!takeSign(';')) {
+                    return token;
+                }
+            }
+            return token;
         }
 
         private void step() {
@@ -1152,22 +1179,6 @@ public final class WarHouses {
                 this.code[size] = code | rest << CODE_BITS;
                 size++;
             }
-        }
-
-        private boolean readText() {
-            while (clauses < MOST_CLAUSES) {
-                if (!readClause()) {
-                    return false;
-                }
-                clauses++;
-                if (sort == SORT_END) {
-                    return true;
-                }
-                if (!takeSign(';')) {
-                    return false;
-                }
-            }
-            return false;
         }
 
         private boolean readClause() {
@@ -1289,11 +1300,28 @@ public final class WarHouses {
                 step();
                 turned = !turned;
             }
-            boolean good = isSign('(') ? readBracket(depth) : readCompare(depth);
-            if (good && turned) {
+            if (isSign('(')) {
+                if (!readBracket(depth)) {
+                    return false;
+                }
+            } else {
+                if (!readSum(depth)) {
+                    return false;
+                }
+                int sign = isSign('<') ? CODE_LESS : isSign('>') ? CODE_MORE : isSign('=') ? CODE_SAME : NONE;
+                if (sign == NONE) {
+                    return false;
+                }
+                step();
+                if (!readSum(depth)) {
+                    return false;
+                }
+                emit(sign, 0);
+            }
+            if (turned) {
                 emit(CODE_NOT, 0);
             }
-            return good;
+            return true;
         }
 
         private boolean readBracket(int depth) {
@@ -1302,22 +1330,6 @@ public final class WarHouses {
             }
             step();
             return readTest(depth + 1) && takeSign(')');
-        }
-
-        private boolean readCompare(int depth) {
-            if (!readSum(depth)) {
-                return false;
-            }
-            int sign = isSign('<') ? CODE_LESS : isSign('>') ? CODE_MORE : isSign('=') ? CODE_SAME : NONE;
-            if (sign == NONE) {
-                return false;
-            }
-            step();
-            if (!readSum(depth)) {
-                return false;
-            }
-            emit(sign, 0);
-            return true;
         }
 
         private boolean readSum(int depth) {
@@ -1997,46 +2009,41 @@ public final class WarHouses {
             }
         }
 
-        /** Every way to begin some of those that rest at this time, each played on from what was ahead of it. */
-        void branch(int time, int rest) {
-            if (time >= TIMES) {
-                keepIfBetter(sites[TIMES - 1]);
-                return;
-            }
-            Site ahead = time == 0 ? before : sites[time - 1];
+        /** Some begin at this time and none later: played on from what was ahead of it till the next time. */
+        void playTime(int time, int some) {
+            putTime(time, some);
             int from = firstWeek + time * BETWEEN;
             int to = time == TIMES - 1 ? firstWeek + QUARTER_WEEKS : from + BETWEEN;
-            for (int some = rest; some >= 0; some = some == 0 ? NONE : some - 1 & rest) {
-                putTime(some, time + 1);
-                if (time < TIMES - 1 || roomsBegun() >= keptHoused) {
-                    sites[time].copyFrom(ahead, told.plots.rows());
-                    tellStarts(time);
-                    for (int w = from; w < to; w++) {
-                        yard.passWeek(sites[time], w);
-                    }
-                    dropStarts();
-                    branch(time + 1, rest & ~some);
+            sites[time].copyFrom(time == 0 ? before : sites[time - 1], told.plots.rows());
+            tellStarts(time);
+            for (int w = from; w < to; w++) {
+                yard.passWeek(sites[time], w);
+            }
+            dropStarts();
+        }
+
+        private void putTime(int time, int some) {
+            for (int i = 0; i < wished; i++) {
+                if (isAmong(i, some)) {
+                    row[i] = time + 1;
+                } else if (row[i] > time) {
+                    row[i] = 0;
                 }
-                putTime(some, 0);
             }
         }
 
-        private void putTime(int some, int value) {
-            for (int i = 0; i < wished; i++) {
-                if ((some >> i & 1) != 0) {
-                    row[i] = value;
-                }
-            }
+        private static boolean isAmong(int wish, int some) {
+            return (some >> wish & 1) != 0;
         }
 
         int roomsOf(int wish) {
             return told.plots.at(wishes[wish], PLOT_ROOMS);
         }
 
-        private int roomsBegun() {
+        int roomsOfAll(int some) {
             int rooms = 0;
             for (int i = 0; i < wished; i++) {
-                rooms += row[i] == 0 ? 0 : roomsOf(i);
+                rooms += isAmong(i, some) ? roomsOf(i) : 0;
             }
             return rooms;
         }
@@ -2057,9 +2064,9 @@ public final class WarHouses {
             return shells;
         }
 
-        private void keepIfBetter(Site site) {
-            int housed = housedIn(site);
-            int shells = shellsIn(site);
+        void keepIfBetter() {
+            int housed = housedIn(sites[TIMES - 1]);
+            int shells = shellsIn(sites[TIMES - 1]);
             if (housed > keptHoused || housed == keptHoused
                     && (shells < keptShells || shells == keptShells && isRowAhead())) {
                 keptHoused = housed;
